@@ -888,7 +888,7 @@ public final class HelperWeave {
             Arrays.fill(slots, 0);
             reach(0, NONE, NONE);
             int fault = GOES_WELL;
-            for (int at = 0; at < size && !spent; at++) {
+            for (int at = 0; at < size && at < MOST_WALKED && !spent; at++) {
                 int found = room == 0 ? passFrom(at) : actFrom(at);
                 if (fault == GOES_WELL && found != GOES_WELL) {
                     fault = found;
@@ -1424,7 +1424,7 @@ public final class HelperWeave {
         }
 
         void becomeOnly(int world) {
-            Arrays.fill(words, 0);
+            Arrays.fill(words, 0L);
             words[world >> WORD_FACTS & WORDS - 1] = 1L << (world & WORDS - 1);
         }
 
@@ -1513,15 +1513,22 @@ public final class HelperWeave {
         /** The i-th world by number; NONE: there is none. */
         int numbered(int i) {
             int left = i;
-            for (int w = 0; w <= ALL_FACTS && left >= 0; w++) {
-                if ((words[w >> WORD_FACTS] >> (w & WORDS - 1) & 1) != 0) {
-                    if (left == 0) {
-                        return w;
-                    }
-                    left--;
+            for (int k = 0; k < WORDS && left >= 0; k++) {
+                int here = Long.bitCount(words[k]);
+                if (left < here) {
+                    return k << WORD_FACTS | bitNumbered(words[k], left);
                 }
+                left -= here;
             }
             return NONE;
+        }
+
+        private static int bitNumbered(long word, int i) {
+            long rest = word;
+            for (int dropped = 0; dropped < i; dropped++) {
+                rest &= rest - 1;
+            }
+            return Long.numberOfTrailingZeros(rest);
         }
     }
 

@@ -6,7 +6,8 @@ import java.util.Random;
 final class OracleTest {
     private static final int[] WILD = {-1, -2, 0, 1, 2, 3, 4, 5, 7, 8, 9, 11, 12, 24, 25, 30, 31, 50, 51, 126,
         4095, 4096, Integer.MIN_VALUE, Integer.MAX_VALUE, -101, 1 << 16, 625, -4096};
-    private static final int CALLS = 512;
+    // some draws make a dozen calls, and behind the 512th nothing is promised
+    private static final int CALLS = 490;
 
     private final Random random;
     private final HelperWeave x = new HelperWeave();
@@ -431,12 +432,19 @@ final class OracleTest {
             talk(text);
             talk(oneIn(2) ? renamed(dual(text)) : dual(text));
         }
-        StringBuilder chatter = new StringBuilder("{(!a");
-        for (int m = 1; m < 5 + random.nextInt(4); m++) {
-            chatter.append(oneIn(5) ? "|?" : "|!").append((char) ('a' + m)).append(oneIn(3) ? "0" : "!a");
-        }
-        talk(chatter.append(")}").toString());
+        talk(chatter());
+        talk(chatter());
         return this;
+    }
+
+    /** Joined by queues with its like, it goes to about as many places as may be walked. */
+    private String chatter() {
+        int messages = 4 + random.nextInt(5);
+        StringBuilder text = new StringBuilder("{(!a");
+        for (int m = 1; m < messages; m++) {
+            text.append(oneIn(5) ? "|?" : "|!").append((char) ('a' + m)).append(oneIn(3) ? "!h" : "0");
+        }
+        return text.append(")}").toString();
     }
 
     private void go(int talks, int joins, int helpers, int rows, int logs) {
