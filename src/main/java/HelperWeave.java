@@ -42,7 +42,7 @@ public final class HelperWeave {
     private static final int MOST_TRIES = 3;
 
     private static final int MOST_EVENTS = 30;
-    private static final int DONE = 0, FAILED = 1, LOST = 2;
+    private static final int DONE = 0, LOST = 2;
     private static final int WORDS = 64;
     private static final int WORD_FACTS = 6;
     private static final long[] WITH_FACT = {
@@ -1144,7 +1144,7 @@ public final class HelperWeave {
             }
         }
 
-        /** Whether no fault is certain, with the messages that are open as they like: with none open, whether there is none. */
+        /** Whether no fault is certain, whatever the open messages become; with none open: whether there is none. */
         private boolean agree() {
             Arrays.fill(reached, 0);
             waitingCount = 0;
@@ -1528,7 +1528,7 @@ public final class HelperWeave {
             for (int dropped = 0; dropped < i; dropped++) {
                 rest &= rest - 1;
             }
-            return Long.numberOfTrailingZeros(rest);
+            return Long.bitCount((rest & -rest) - 1);
         }
     }
 
@@ -1553,6 +1553,7 @@ public final class HelperWeave {
             return behind[events];
         }
 
+        /** A call that failed changes no world. */
         void addCall(Helper helper, int how) {
             Worlds now = addEvent();
             if (how == DONE) {

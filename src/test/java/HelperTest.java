@@ -15,6 +15,11 @@ final class HelperTest {
         Check.due("17: a ninth", x.helper(0, 0, 0), F);
         Check.due("17: outside ahead of full", x.helper(0, 0, 4096), O);
         Check.due("17: eight", x.count(2), 8);
+        Check.due("18: no ninth", x.set(8, 0, 0), U);
+        Check.due("18: no ninth to undo", x.set(7, 4, 8), U);
+        Check.due("20: no ninth", x.about(8, 0), U);
+        Check.due("21: no ninth", x.put(8), U);
+        Check.due("33: no ninth", x.call(8, 0), U);
         long[] told = new long[8];
         for (int what = 0; what < 8; what++) {
             told[what] = x.about(5, what);

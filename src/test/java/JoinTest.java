@@ -75,6 +75,22 @@ final class JoinTest {
         Check.due("10: 4001", x.join(2, 3, 2), 3);
         Check.due("11: 4001", x.walked(), 4000);
         Check.due("12: no fault is told", x.trace(0), N);
+        Check.due("10: behind it", x.join(2, 2, 0), 2);
+        Check.due("10: behind it, by queues", x.join(0, 1, 2), 1);
+        Check.due("11: behind it, by queues", x.walked(), 4000);
+    }
+
+    /** A join knows nothing of the one before. */
+    private static void joinsAnew() {
+        HelperWeave x = Check.withTalks("!a!b", "?a", "?a?b");
+        Check.due("10: a fault", x.join(0, 1, 0), 2);
+        Check.due("12: a fault", x.trace(0), 0);
+        Check.due("10: none", x.join(0, 2, 0), 0);
+        Check.due("12: none", x.trace(0), N);
+        Check.due("10: a fault by queues", x.join(0, 1, 1), 1);
+        Check.due("12: a fault by queues", x.trace(2), 1);
+        Check.due("10: none by queues", x.join(0, 2, 1), 0);
+        Check.due("12: none by queues", x.trace(0), N);
     }
 
     private static void joinRefusals() {
@@ -202,6 +218,18 @@ final class JoinTest {
         Check.due("11: walked() is of join() alone", x.walked(), 1);
     }
 
+    private static void adaptersAnew() {
+        HelperWeave x = Check.withTalks("!a!b", "?c?d", "!e", "?f");
+        Check.due("15: the first", x.adapters(0, 1), 1);
+        Check.due("15: another a", x.adapters(2, 1), 0);
+        Check.due("15: another b", x.adapters(2, 3), 1);
+        Check.due("16: another b", x.adapter(2, 3, 0, 4), 5);
+        Check.due("16: the first again", x.adapter(0, 1, 0, 1), 3);
+        Check.due("16: not a message of the first", x.adapter(0, 1, 0, 4), N);
+        Check.due("15: the other way", x.adapters(1, 0), 1);
+        Check.due("16: the other way", x.adapter(1, 0, 0, 3), 1);
+    }
+
     private static void adapterRefusals() {
         HelperWeave x = Check.withTalks("!a", "?b", "!a!b!c!d!e!f");
         Check.due("15: a", x.adapters(3, 0), U);
@@ -227,11 +255,13 @@ final class JoinTest {
         atOnce();
         byQueues();
         spent();
+        joinsAnew();
         joinRefusals();
         fits();
         swaps();
         adapters();
         allAdapters();
+        adaptersAnew();
         adapterRefusals();
         Check.finish("JoinTest");
     }

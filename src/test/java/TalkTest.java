@@ -93,9 +93,25 @@ final class TalkTest {
         good("?a)", 2);
         good("{(?a|{?b})}", 11);
         good("({(0|0)", 7);
+        good("(?a|?b)(?c)", 10);
         good("(".repeat(80), 80);
         good("{".repeat(79) + "}", 79);
         good("?a".repeat(40), 80);
+    }
+
+    /** What was read ahead of it leaves nothing behind. */
+    private static void readAnew() {
+        HelperWeave x = new HelperWeave();
+        for (String text : new String[] {"{(?a|", "?", "(?a|{!"}) {
+            Check.write(x, text);
+            Check.due("4: open", x.good(), text.length());
+            Check.due("4: open still", x.good(), text.length());
+            Check.due("5: open", x.talk(), S);
+            x.blank();
+        }
+        Check.due("5: behind them", Check.talk(x, "(0|?a)(?b|?c)"), 0);
+        Check.due("8: not nothing", x.ends(0, 0), 0);
+        Check.due("7: past the first", x.next(0, 0, 0, 2), 3);
     }
 
     private static void read(String text, int want) {
@@ -145,6 +161,9 @@ final class TalkTest {
         Check.due("5: outside ahead of full", Check.talk(x, "(?a|?a)"), O);
         Check.due("5: state ahead of full", Check.talk(x, "(?a|?a"), S);
         Check.due("5: six", x.count(0), 6);
+        Check.due("6: the sixth", x.steps(5), 1);
+        Check.due("6: no seventh", x.steps(6), U);
+        Check.due("10: no seventh", x.join(0, 6, 0), U);
     }
 
     private static void machine() {
@@ -229,6 +248,7 @@ final class TalkTest {
         letters();
         blank();
         goods();
+        readAnew();
         talks();
         sixTalks();
         machine();
