@@ -2,6 +2,8 @@
 final class Check {
     private static int asked = 0;
     private static int wrong = 0;
+    // stands ahead of each call that is told
+    private static String heading = "";
 
     private Check() {
     }
@@ -10,7 +12,7 @@ final class Check {
         asked++;
         if (got != want) {
             wrong++;
-            System.out.println(call + " answered " + got + ", due is " + want);
+            System.out.println(heading + call + " answered " + got + ", due is " + want);
         }
     }
 
@@ -19,6 +21,14 @@ final class Check {
         for (int i = 0; i < got.length && i < want.length; i++) {
             due(call + ", number " + i, got[i], want[i]);
         }
+    }
+
+    static void head(String text) {
+        heading = text;
+    }
+
+    static int asked() {
+        return asked;
     }
 
     static boolean isWrong() {
