@@ -2,6 +2,8 @@
 final class Check {
     private static int asked = 0;
     private static int wrong = 0;
+    // for Mutants, which asks only whether something is wrong
+    private static final boolean ENDS_AT_FIRST = Boolean.getBoolean("first");
     // stands ahead of each call that is told
     private static String heading = "";
 
@@ -13,6 +15,9 @@ final class Check {
         if (got != want) {
             wrong++;
             System.out.println(heading + call + " answered " + got + ", due is " + want);
+            if (ENDS_AT_FIRST) {
+                System.exit(1);
+            }
         }
     }
 

@@ -258,6 +258,17 @@ final class JoinEdges extends Edges {
         adapts("?a!b", "!c", "ab");
         adapts("?a!b", "!c?d?e", "ab");
         adapts("?a!b", "!c?d{?e}", "ab", "cd");
+        adapts("?a?b", "!c!c", "ab");
+        adapts("!a!b", "(?a|?b)(?a|?b)!a", "ab");
+        // faults that are far away, behind what becomes a, and beside a loop
+        adapts("?b!c", "!a?d?e", "bc");
+        adapts("!b!c", "?a?d?e", "bc");
+        adapts("(!a!c|!b{!b})", "(?a|?b{?b})", "abc");
+        adapts("(!a!c|!b{!b})", "(?a?d|?b{?b})", "abc", "abd");
+        adapts("(!a!c|!b{!b})", "(?a?d|?b{?b?b})", "abc", "abd");
+        adapts("({!a}!b|!c!d)", "({?a}?b|?c)", "abcd");
+        // a way that fails leaves nothing behind for the next one
+        adapts("(!a!a|!b!b)", "(?a?a|?b?b|?c?d)", "ab", "ab", "ba");
         says("Terms", "in order by what a's least MESSAGE becomes, then its next one, and so on.");
         adapts("!a", "(?h|?c|?a)", "a", "a", "c", "h");
         adapts("!b!a", "(?a|?c)(?d|?b)", "ab", "ba", "bc", "da", "dc");
@@ -420,8 +431,14 @@ final class JoinEdges extends Edges {
         due("what b never says may be anything", withTalks("(?f|?g)", "!h").adapters(0, 1), 14);
         due("all", withTalks(FIVE, HEARS_ALL).adapters(0, 1), 6720);
         due("b may have more than 5", withTalks("!h", HEARS_ALL).adapters(0, 1), 8);
-        HelperWeave x = withTalks("(!a|?a)");
+        HelperWeave x = withTalks("(!a|?a)", "(?c|!c)", "?c?d", "{?a}");
         due("to itself", x.adapters(0, 0), 1);
+        due("to another one", x.adapters(0, 1), 1);
+        due("what it becomes", x.adapter(0, 1, 0, 0), 2);
+        due("to a third one", x.adapters(0, 2), 0);
+        due("of a third one", x.adapters(2, 0), 0);
+        due("of a fourth one", x.adapters(3, 3), 8);
+        due("to the other one again", x.adapters(0, 1), 1);
     }
 
     private static void adaptersRefused() {

@@ -92,6 +92,10 @@ final class TalkEdges extends Edges {
         isGood("(?a|?b}", 6);
         isMachine("(?a|?b)", "011", "?a1?b2", "", "");
         isMachine("(?a|?b|!a)!h", "00001", "?a1?b2!a3", "!h4", "!h4", "!h4", "");
+        isMachine("(?a|?b)(?c|?d)?e", "000001", "?a1?b2", "?c3?d4", "?c3?d4", "?e5", "?e5", "");
+        isMachine("(0|?a)(?b|?c)", "0011", "?a1?b2?c3", "?b2?c3", "", "");
+        isGood("(?a|?b)(?c)", 10);
+        isGood("(0|(?a|?b))((?c))", 15);
         reads("(" + "0|".repeat(38) + "0)", 0);
         isMachine("(?a|?b|?c|?d|?e|?f|?g|?h|!a|!b|!c|!d|!e|!f|!g|!h)", "01111111111111111",
             "?a1?b2?c3?d4?e5?f6?g7?h8!a9!b10!c11!d12!e13!f14!g15!h16",
@@ -316,6 +320,18 @@ final class TalkEdges extends Edges {
         due("once", x.good(), 2);
         due("and again", x.good(), 2);
         due("THE PAGE stays", x.count(1), 3);
+        for (String open : new String[] {"?", "{(?a|", "(?a|{!"}) {
+            x.blank();
+            Check.write(x, open);
+            due("of an open one", x.good(), open.length());
+            due("of an open one again", x.good(), open.length());
+            due("which is no TALK", x.talk(), S);
+            x.blank();
+            due("of none", x.good(), 0);
+            Check.write(x, "(0|?a)?b");
+            due("of another one", x.good(), 8);
+        }
+        due("which is a TALK", x.talk(), 0);
         says("4", "(its STEPS not counted).");
         isGood("?a".repeat(24), 48);
         isGood("?a".repeat(25), 50);
