@@ -20,6 +20,10 @@ final class Doc {
     }
 
     static void open() throws IOException {
+        if (!Files.exists(PLACE)) {
+            System.out.println("no " + PLACE + ": quotations are not compared with it");
+            return;
+        }
         String name = "";
         StringBuilder text = new StringBuilder();
         for (String line : Files.readAllLines(PLACE)) {
@@ -56,6 +60,9 @@ final class Doc {
     }
 
     private static void mark(String section, String words) {
+        if (SECTIONS.isEmpty()) {
+            return;
+        }
         String text = SECTIONS.getOrDefault(section, "");
         int at = text.indexOf(words);
         if (at < 0) {
