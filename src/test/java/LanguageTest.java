@@ -6,9 +6,11 @@ import java.nio.file.Files;
 import java.nio.file.Path;
 import java.util.Set;
 import java.util.TreeSet;
+import java.util.stream.Stream;
 
 /** The face of the document and no more, and those rules of LANGUAGE.md that can be seen from outside. */
 final class LanguageTest {
+    private static final Path DOCUMENT = Path.of("../shared/DOC.md");
     private static final String FACE = "int letters(long) int blank() int good() int talk() int steps(int) "
         + "int next(int,int,int,int) int ends(int,int) int uses(int,int) int join(int,int,int) int walked() "
         + "int trace(int) int fit(int,int) int swap(int,int,int) int adapters(int,int) int adapter(int,int,int,int) "
@@ -60,7 +62,25 @@ final class LanguageTest {
         isTrue("twelve classes", HelperWeave.class.getDeclaredClasses().length <= 11);
     }
 
+    /** The document's own lines of the face, if it is there. */
+    private static void faceOfDocument() throws IOException {
+        if (!Files.exists(DOCUMENT)) {
+            System.out.println("no " + DOCUMENT + ": the face is not compared with it");
+            return;
+        }
+        StringBuilder told = new StringBuilder();
+        for (String line : Files.readAllLines(DOCUMENT)) {
+            if (line.matches("    public (int|long) \\w+\\(.*\\);")) {
+                String bare = line.trim().replaceAll("(int|long|boolean) \\w+(?=[,)])", "$1");
+                told.append(bare.replace("public ", "").replace(", ", ",").replace(";", " "));
+            }
+        }
+        isTrue("the document's face: " + told, told.toString().trim().equals(FACE));
+    }
+
     private static void hidden(Class<?> where, Set<String> names, boolean outer) {
+        long fields = Stream.of(where.getDeclaredFields()).filter(f -> !Modifier.isStatic(f.getModifiers())).count();
+        isTrue("twenty fields: " + where, fields <= 20);
         for (Method method : where.getDeclaredMethods()) {
             isTrue("seven parameters: " + method, method.getParameterCount() <= 7);
             if (!Modifier.isPublic(method.getModifiers())) {
@@ -76,11 +96,32 @@ final class LanguageTest {
             isTrue("not there: " + word, !text.contains(word));
         }
         isTrue("one import", text.indexOf("import") == text.lastIndexOf("import"));
+        isTrue("short methods", longestMethod(text) <= 60);
         isTrue("plain signs", text.chars().allMatch(c -> c == '\n' || c >= 32 && c < 127));
+    }
+
+    /** How many lines the longest method has: from a line that opens one to the brace below its beginning. */
+    private static int longestMethod(String text) {
+        int longest = 0;
+        int begun = 0;
+        String closing = "";
+        String[] lines = text.split("\n");
+        for (int i = 0; i < lines.length; i++) {
+            if (closing.isEmpty() && lines[i].matches(" +[^=]*\\) \\{")) {
+                begun = i;
+                closing = lines[i].replaceAll("\\S.*", "") + "}";
+            } else if (!closing.isEmpty() && lines[i].equals(closing)) {
+                longest = Math.max(longest, i - begun + 1);
+                closing = "";
+            }
+        }
+        isTrue("methods were found", longest > 10 && closing.isEmpty());
+        return longest;
     }
 
     public static void main(String[] args) throws IOException {
         face();
+        faceOfDocument();
         source();
         Check.finish("LanguageTest");
     }
